@@ -14,7 +14,8 @@ public final class Lanternserver {
   public static final int REFUSED = 1, RESET = 2, GIVEN_UP = 3, ABORTED = 4;
 
   private static final int MOST_ON_TAPE = 400, MOST_HOSTS = 5, MOST_FRAMES = 100, MOST_ECHOES = 40,
-      MOST_LOOKUPS = 40, MOST_CONNECTIONS = 60, MOST_OPEN = 6, MOST_TIME = 20000, MOST_SETTLED = 500;
+      MOST_LOOKUPS = 40, MOST_CONNECTIONS = 60, MOST_OPEN = 6, MOST_TIME = 20000, MOST_SETTLED = 500,
+      MOST_LAID_OUT = 100;
   private static final int MOST_WAITING = 4, MOST_KEPT = 4, MOST_PIECES = 6, MOST_WRITTEN = 600, MOST_UNREAD = 300,
       MOST_CWND = 2000, FIRST_THRESHOLD = 2000, MOST_FILES = 8, MOST_SIZE = 300;
   private static final int TABLE_TICKS = 200, KEPT_TICKS = 60, ASK_TICKS = 5, WAIT_TICKS = 40, PATIENCE = 400,
@@ -555,7 +556,7 @@ public final class Lanternserver {
   /** Posts what was laid out, host by host in the order in which it was. */
   private void postAll() {
     for (int k = 0; k < wire.laidOut; k++) {
-      Datagram next = wire.outgoing.get(k);
+      Datagram next = wire.outgoing[k];
       if (hasHost(next.from)) hosts.get(next.from).post(next, wire);
     }
     wire.laidOut = 0;
@@ -591,8 +592,8 @@ public final class Lanternserver {
         Connection one = connections.get(k);
         if (one.host == h) one.age();
       }
+      postAll();
     }
-    postAll();
   }
 
   // ---- echoes and names that come in
@@ -721,7 +722,7 @@ public final class Lanternserver {
     if (arrived.isSpoilt) wire.strangers++;
     Connection to = connectionOf(host);
     if (to == null) {
-      if (isBeginning(host)) beginServers();
+      if (isBeginning(host)) newServers().beginAsServer(segment);
       else if (!segment.has(RST)) wire.answerByReset(segment);
       return;
     }
@@ -748,12 +749,12 @@ public final class Lanternserver {
         && openMany(true) < MOST_OPEN && connections.size() < MOST_CONNECTIONS;
   }
 
-  private void beginServers() {
+  private Connection newServers() {
     Connection begun = new Connection(connections.size(), hosts.get(0), segment.sender, segment.port, wire);
     int other = segment.port - FIRST_CLIENT_PORT;
     if (hasConnection(other) && !connections.get(other).isServers()) begun.other = other;
     connections.add(begun);
-    begun.beginAsServer(segment);
+    return begun;
   }
 
   /** Finds the server's connection with whose SYN a client's became ESTABLISHED: no two begin with one number. */
@@ -898,8 +899,9 @@ public final class Lanternserver {
     }
 
     void setTwo(int index, int value) {
-      setAt(index, value >> 8 & 255);
-      setAt(index + 1, value & 255);
+      if (index < 0 || index + 2 > length) return;
+      cells[index] = value >> 8 & 255;
+      cells[index + 1] = value & 255;
     }
 
     void add(int value) {
@@ -950,8 +952,10 @@ public final class Lanternserver {
     void addNumber(int number) {
       int unit = 1;
       for (int k = 0; k < 9 && number / 10 >= unit; k++) unit *= 10;
+      if (length + 10 > cells.length) cells = Arrays.copyOf(cells, 2 * length + 10);
       for (int k = 0; k < 10 && unit > 0; k++) {
-        add('0' + number / unit % 10);
+        cells[length] = '0' + number / unit % 10;
+        length++;
         unit /= 10;
       }
     }
@@ -969,6 +973,15 @@ public final class Lanternserver {
         if (cells[from + k] != other.cells[otherFrom + k]) return false;
       }
       return true;
+    }
+
+    /** Tells by its sign which of two rows comes first by their bytes. */
+    int compare(Row other) {
+      int least = Math.min(length, other.length);
+      for (int k = 0; k < least; k++) {
+        if (cells[k] != other.cells[k]) return cells[k] - other.cells[k];
+      }
+      return length - other.length;
     }
 
     boolean hasText(int from, String text) {
@@ -1048,7 +1061,7 @@ public final class Lanternserver {
     int delivered;
     int spoilings;
     int time;
-    final ArrayList<Datagram> outgoing = new ArrayList<>();
+    final Datagram[] outgoing = new Datagram[MOST_LAID_OUT];
     int laidOut;
     int sentAgain;
     int resets;
@@ -1057,6 +1070,7 @@ public final class Lanternserver {
 
     Wire() {
       for (int k = 0; k < MOST_FRAMES; k++) frames[k] = new Frame();
+      for (int k = 0; k < MOST_LAID_OUT; k++) outgoing[k] = new Datagram();
     }
 
     /** Returns an empty frame at the end of the wire; one that goes nowhere if the wire is full. */
@@ -1116,10 +1130,13 @@ public final class Lanternserver {
       return index;
     }
 
-    /** Returns an empty datagram on the pile of what is to be sent. */
+    /**
+     * Returns an empty datagram on the pile of what is to be sent. The pile is never full: a segment sets free some
+     * 20 at most (600 bytes by 40, and what answers it), a tick two for each open connection of a host.
+     */
     Datagram letter(int from, int receiver, int protocol) {
-      if (laidOut >= outgoing.size()) outgoing.add(new Datagram());
-      Datagram next = outgoing.get(laidOut);
+      if (laidOut >= MOST_LAID_OUT) laidOut = MOST_LAID_OUT - 1;
+      Datagram next = outgoing[laidOut];
       next.begin(from, receiver, protocol);
       laidOut++;
       return next;
@@ -1182,8 +1199,8 @@ public final class Lanternserver {
       time = 0;
       end = NONE;
       isSpoilt = false;
-      bytes.empty();
-      present.empty();
+      bytes.length = 0;
+      present.length = 0;
     }
 
     void copyOf(Datagram other) {
@@ -1197,7 +1214,7 @@ public final class Lanternserver {
     /** Adds up what stands ahead of the sums of names and segments. */
     int headSum() {
       return (sender >>> 16) + (sender & 65535) + (receiver >>> 16) + (receiver & 65535) + protocol
-          + bytes.length();
+          + bytes.length;
     }
 
     void closeNames() {
@@ -1665,11 +1682,11 @@ public final class Lanternserver {
     }
 
     int unread() {
-      return in.length() - taken;
+      return in.length - taken;
     }
 
     int window() {
-      return MOST_UNREAD - unread();
+      return MOST_UNREAD - in.length + taken;
     }
 
     void takeBytes(Segment segment) {
@@ -1713,7 +1730,7 @@ public final class Lanternserver {
     private int firstPiece() {
       int first = 0;
       for (int k = 1; k < many; k++) {
-        if (isAhead(begins[k], begins[first])) first = k;
+        if (begins[first] - begins[k] > 0) first = k;
       }
       return first;
     }
@@ -1829,10 +1846,6 @@ public final class Lanternserver {
       datagram.closeSegment();
     }
 
-    private void acknowledge() {
-      emit(ACK, sender.nxt, 0, 0);
-    }
-
     private int flagsOf(int behind) {
       return behind == sender.wrote ? ACK | PSH : ACK;
     }
@@ -1920,7 +1933,7 @@ public final class Lanternserver {
       if (state == SYN_SENT) return arriveAsked(segment);
       if (segment.has(SYN)) {
         if (state == SYN_RECEIVED && segment.sequence == receiver.irs) sendAgain();
-        else acknowledge();
+        else emit(ACK, sender.nxt, 0, 0);
         return false;
       }
       if (segment.has(RST)) {
@@ -1936,7 +1949,7 @@ public final class Lanternserver {
         establish(segment);
       }
       if (isAhead(sender.nxt, segment.acknowledgement)) {
-        acknowledge();
+        emit(ACK, sender.nxt, 0, 0);
         return false;
       }
       if (isThirdDouble(segment)) {
@@ -1947,7 +1960,7 @@ public final class Lanternserver {
       sender.noteWindow(segment);
       if (isEndedByAcknowledgement()) return false;
       takeIn(segment);
-      if (segment.many > 0 || segment.has(FIN)) acknowledge();
+      if (segment.many > 0 || segment.has(FIN)) emit(ACK, sender.nxt, 0, 0);
       return true;
     }
 
@@ -1965,7 +1978,7 @@ public final class Lanternserver {
       sender.tellWindow(segment);
       mss = Math.min(ownMss, segment.mss);
       establish(segment);
-      acknowledge();
+      emit(ACK, sender.nxt, 0, 0);
       return true;
     }
 
@@ -2043,7 +2056,9 @@ public final class Lanternserver {
       int before = receiver.window();
       int many = Math.min(most, receiver.unread());
       receiver.taken += many;
-      if (state != CLOSED && before < LOW_WINDOW && receiver.window() >= LOW_WINDOW) acknowledge();
+      if (state != CLOSED && before < LOW_WINDOW && receiver.window() >= LOW_WINDOW) {
+        emit(ACK, sender.nxt, 0, 0);
+      }
       if (receiver.hasFin && receiver.unread() == 0) isEndTold = true;
       return many;
     }
@@ -2334,7 +2349,7 @@ public final class Lanternserver {
       if (many != other.many || latest != other.latest) return false;
       for (int k = 0; k < many; k++) {
         Row content = contents[k];
-        if (versions[k] != other.versions[k] || compare(names[k], other.names[k]) != 0) return false;
+        if (versions[k] != other.versions[k] || names[k].compare(other.names[k]) != 0) return false;
         if (content.length() != other.contents[k].length()) return false;
         if (!content.isSame(0, other.contents[k], 0, content.length())) return false;
       }
@@ -2380,17 +2395,9 @@ public final class Lanternserver {
 
     private int placeOf(Row target) {
       for (int k = 0; k < many; k++) {
-        if (compare(names[k], target) == 0) return k;
+        if (names[k].compare(target) == 0) return k;
       }
       return NONE;
-    }
-
-    private static int compare(Row a, Row b) {
-      int least = Math.min(a.length(), b.length());
-      for (int k = 0; k < least; k++) {
-        if (a.at(k) != b.at(k)) return a.at(k) - b.at(k);
-      }
-      return a.length() - b.length();
     }
 
     /** Tells whether a condition fits a file's version (NONE: no file); without one as it is told. */
@@ -2488,7 +2495,7 @@ public final class Lanternserver {
       Row freeName = names[many];
       Row freeContent = contents[many];
       int place = many;
-      while (place > 0 && compare(names[place - 1], target) > 0) {
+      while (place > 0 && names[place - 1].compare(target) > 0) {
         names[place] = names[place - 1];
         contents[place] = contents[place - 1];
         versions[place] = versions[place - 1];
