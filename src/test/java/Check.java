@@ -2,7 +2,7 @@
 final class Check {
   /** A call that may throw. */
   interface Call {
-    long answer();
+    void make();
   }
 
   private static int wrong = 0;
@@ -40,7 +40,7 @@ final class Check {
     made++;
     String got = "nothing";
     try {
-      call.answer();
+      call.make();
     } catch (RuntimeException thrown) {
       if (thrown.getClass() == due) return;
       got = thrown.toString();
