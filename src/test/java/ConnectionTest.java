@@ -5,6 +5,9 @@ final class ConnectionTest {
   private static final String HEAD = "PUT /a HTTP/1.1\r\nHost: h\r\nContent-Length: 300\r\n\r\n";
   private static final String GET = "GET /a HTTP/1.1\r\nHost: h\r\n\r\n";
 
+  /** Nothing begins at the time 0, so that times that were never put down show. */
+  private static final int BEGIN = 7;
+
   private ConnectionTest() {}
 
   public static void main(String[] args) {
@@ -42,6 +45,9 @@ final class ConnectionTest {
     beginnings();
     anotherConnectionOfTheSameEnds();
     patience();
+    sendingWhileClosing();
+    doublesAgain();
+    noFinNoNewWait();
     closingEarly();
     headerFlags();
     wrongCalls();
@@ -51,16 +57,18 @@ final class ConnectionTest {
   private static Watch known(int mtu, int mss) {
     Watch w = new Watch();
     w.x.addHost(mtu, mss);
+    w.x.pass(BEGIN);
     w.x.echo(1, 0, 0);
     w.x.settle(1);
     return w;
   }
 
-  /** Client's connection 0 and server's connection 1, both ESTABLISHED, at the time 0. */
+  /** Client's connection 0 and server's connection 1, both ESTABLISHED two ticks ago. */
   private static Watch open(int mss) {
     Watch w = known(600, mss);
     w.x.connect(1, 0, 80);
     w.x.settle(1);
+    w.x.pass(2);
     return w;
   }
 
@@ -206,7 +214,7 @@ final class ConnectionTest {
     int[] rtos = {20, 40, 80, 80, 80, 80, 80, 80, 80};
     for (int k = 0; k < 9; k++) {
       while (w.x.count(2) > 0) w.x.lose(0);
-      while (w.x.count(0) < times[k] - 1) w.x.pass(1);
+      while (w.x.count(0) < BEGIN + times[k] - 1) w.x.pass(1);
       is(w, 0, 16, k);
       Check.due("nothing is sent ahead of its time", w.x.count(2), 0);
       w.x.pass(1);
@@ -900,7 +908,7 @@ final class ConnectionTest {
     w.x.pass(100);
     w.x.echo(1, 0, 0);
     w.x.settle(1);
-    w.x.pass(99);
+    w.x.pass(97);
     is(w, 1, 0, Lanternserver.ESTABLISHED);
     w.x.pass(1);
     is(w, 1, 0, Lanternserver.CLOSED);
@@ -940,6 +948,72 @@ final class ConnectionTest {
     w.x.pass(1);
     is(w, 1, 15, Lanternserver.ABORTED);
     is(w, 0, 15, 0);
+  }
+
+  /** Both have closed, and the client still has bytes to send: that is done in CLOSING, too. */
+  private static void sendingWhileClosing() {
+    Watch w = open(40);
+    w.write(0, "GET / HTTP/1.0\r\n\r\n" + x(280));
+    w.x.close(0, false);
+    wire(w, "1>0 A 1 1 w300 b40");
+    w.x.deliver(0);
+    is(w, 1, 0, Lanternserver.FIN_WAIT_1);
+    for (int k = 0; k < 40 && w.x.connectionAt(0, 0) == Lanternserver.FIN_WAIT_1; k++) w.x.deliver(0);
+    is(w, 0, 0, Lanternserver.CLOSING);
+    Check.isTrue("not all was sent", w.x.connectionAt(0, 5) < 1 + 298);
+    w.x.settle(60);
+    states(w, Lanternserver.TIME_WAIT, Lanternserver.TIME_WAIT);
+    is(w, 1, 6, 1 + 298 + 1);
+    is(w, 1, 12, 280);
+    Check.due("errors", w.x.errors(), 0);
+  }
+
+  /** An acknowledgement of something new makes doubles 0 again. */
+  private static void doublesAgain() {
+    Watch w = five();
+    w.x.lose(0);
+    for (int k = 0; k < 4; k++) w.x.deliver(0);
+    for (int k = 0; k < 4; k++) w.x.deliver(0);
+    Check.due("sent again once", w.x.count(12), 40);
+    w.x.settle(1);
+    is(w, 0, 11, 0);
+    for (int k = 0; k < 8; k++) {
+      w.write(0, "a");
+      w.x.settle(1);
+    }
+    w.write(0, x(80));
+    Check.due("two segments", w.x.count(2), 2);
+    w.x.lose(0);
+    for (int k = 0; k < 5; k++) w.x.twice(0);
+    for (int k = 0; k < 6; k++) w.x.deliver(0);
+    for (int k = 0; k < 6; k++) w.x.deliver(0);
+    Check.due("and once more", w.x.count(12), 80);
+  }
+
+  private static void noFinNoNewWait() {
+    // In TIME_WAIT only a FIN that comes again begins the 40 ticks anew.
+    Watch w = full(1);
+    w.x.twice(0);
+    w.x.read(0, 300);
+    w.x.settle(20);
+    w.x.read(0, 300);
+    w.x.settle(20);
+    w.x.close(0, false);
+    w.x.twice(0);
+    w.x.deliver(0);
+    w.x.deliver(1);
+    w.x.twice(1);
+    w.x.deliver(1);
+    is(w, 0, 0, Lanternserver.TIME_WAIT);
+    w.x.pass(3);
+    while (w.x.count(2) > 0) {
+      if (w.frame(0).contains(" FA ") && w.frame(0).startsWith("0>1")) w.x.lose(0);
+      else w.x.deliver(0);
+    }
+    w.x.pass(36);
+    is(w, 0, 0, Lanternserver.TIME_WAIT);
+    w.x.pass(1);
+    is(w, 0, 0, Lanternserver.CLOSED);
   }
 
   private static void closingEarly() {

@@ -164,6 +164,9 @@ final class RequestTest {
     wrongAtItsEnd(501, "GET /" + H + "Transfer-Encoding:\r\n\r\n");
     wrongAtItsEnd(501, "GET /" + H + "Transfer-Encoding: chunked\r\nTransfer-Encoding: x\r\n\r\n");
     whole(200, "GET /" + H + "Transfer-Encoding: x\r\nTransfer-Encoding: CHUNKED  \r\n\r\n0\r\n\r\n");
+    for (String method : new String[] {"FOO", "GETT", "PUTS", "POSX", "DELETX", "OPTIONX", "HEAX", "P", "DELETES"}) {
+      wrongAtItsEnd(501, method + " /a" + H + "Content-Length: 0\r\n\r\n");
+    }
     whole(405, "DELETE /" + H + "\r\n");
     whole(204, "OPTIONS /" + H + "\r\n");
     whole(200, "HEAD /" + H + "\r\n");
@@ -195,6 +198,7 @@ final class RequestTest {
     whole(201, put + "1\r\n\u0000\r\n" + ends);
     whole(201, put + "a\r\n0123456789\r\nA\r\n0123456789\r\n0001\r\n\r\r\n" + ends);
     whole(201, put + "12c\r\n" + text('x', 300) + "\r\n" + ends);
+    whole(201, put + "9\r\n012345678\r\nF\r\n0123456789abcde\r\nf\r\n0123456789abcde\r\n" + ends);
     wrongAtItsEnd(413, put + "12d\r");
     wrongAtItsEnd(413, put + "ffff\r");
     wrongAtItsEnd(413, put + "12c\r\n" + text('x', 300) + "\r\n1\r");
@@ -217,11 +221,23 @@ final class RequestTest {
     Check.dueText("the file", t.w.file(0), "/a=a\rb\n\u00ff v1");
     t.ask("PUT /b" + H + "Content-Length: 3\r\n\r\n\r\n\u0000");
     Check.dueText("the other file", t.w.file(1), "/b=\r\n\u0000 v2");
+    // Nothing of a request is left for the next one on the connection.
+    Check.due("another chunked one", t.code("PUT /c" + H + "Transfer-Encoding: chunked\r\n\r\n0001\r\nx\r\n" + ends), 201);
+    Check.dueText("its bytes", t.w.file(2), "/c=x v3");
+    Check.due("one of 1.0 that stays", t.code("HEAD / HTTP/1.0\r\nConnection: keep-alive\r\nIf-Match: x\r\n\r\n"), 200);
+    Check.due("on the same connection", t.w.x.servedAt(3, 1), 3);
+    Check.dueText("no method was read", t.ask("g"),
+        "HTTP/1.1 400 Bad Request\r\nContent-Length: 11\r\nConnection: close\r\n\r\nBad Request");
+    t = new RequestTest();
+    t.ask("GET / HTTP/1.0\r\nConnection: keep-alive\r\n\r\n");
+    t.ask("GET / HTTP/1.0\r\n\r\n");
+    Check.due("it was not said again", t.w.x.servedAt(1, 5), 1);
   }
 
   private static void targets() {
     whole(404, "GET /abcdefghijkl" + H + "\r\n");
     RequestTest t = new RequestTest();
+    Check.due("all signs", t.code("PUT /az09." + H + "Content-Length: 0\r\n\r\n"), 201);
     Check.due("12 signs", t.code("PUT /abcdefghij.9" + H + "Content-Length: 0\r\n\r\n"), 201);
     String[] none = {"/abcdefghijklm", "/A", "/a/b", "//", "/-", "/a?", "/_", "/{", "/`", "/:", "/*"};
     for (String target : none) {
@@ -415,6 +431,12 @@ final class RequestTest {
     t.ask("DELETE /3" + H + "\r\n");
     Check.due("now there is room", t.code("PUT /8" + H + "Content-Length: 0\r\n\r\n"), 201);
     Check.due("files", t.w.x.count(8), 8);
+    for (int k = 0; k < 3; k++) t.ask("DELETE /" + k + H + "\r\n");
+    for (int k = 0; k < 3; k++) t.ask("PUT /" + k + "x" + H + "Content-Length: 2\r\n\r\nb" + k);
+    t.ask("PUT /7" + H + "Content-Length: 1\r\n\r\nq");
+    String[] due = {"/0x=b0 v15", "/1x=b1 v16", "/2x=b2 v17", "/4= v5", "/5= v6", "/6= v7", "/7=q v18", "/8= v11"};
+    // Each has a place of its own, also behind those that are gone.
+    for (int k = 0; k < 8; k++) Check.dueText("file " + k, t.w.file(k), due[k]);
     Check.isTrue("agrees", t.w.x.agrees());
   }
 

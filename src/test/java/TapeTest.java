@@ -40,6 +40,19 @@ final class TapeTest {
     Check.due("six full numbers less 8", x.type(-1, -1, -1, -1, -1, 0), 400);
     Check.noState("one byte too many", () -> x.type(0, 0, 0, 0, 0, 1));
     Check.due("nothing at the end", x.type(0, 0, 0, 0, 0, 0), 400);
+    for (int k = 0; k < 6; k++) {
+      long[] n = new long[6];
+      n[k] = -1;
+      x.clear();
+      x.put(1, 300);
+      x.put(1, 93);
+      Check.noState("number " + k, () -> x.type(n[0], n[1], n[2], n[3], n[4], n[5]));
+      x.clear();
+      x.put(1, 300);
+      x.put(1, 92);
+      Check.due("number " + k, x.type(n[0], n[1], n[2], n[3], n[4], n[5]), 400);
+      Check.due("its bytes", x.sum(398, 400), 0);
+    }
     Check.due("the length stays", x.count(15), 400);
   }
 
@@ -82,6 +95,10 @@ final class TapeTest {
       int piece = which;
       Check.noState("no room for piece " + which, () -> x.piece(piece));
       Check.due("nothing changed", x.count(15), 401 - text.length());
+      x.clear();
+      x.put(1, 300);
+      x.put(1, 100 - text.length());
+      Check.due("just room for piece " + which, x.piece(which), 400);
     }
     Lanternserver x = new Lanternserver();
     Check.noArgument("piece 6", () -> x.piece(6));

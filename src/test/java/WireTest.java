@@ -10,6 +10,7 @@ final class WireTest {
     askingAgain();
     waiting();
     tableGoes();
+    manyEntries();
     spoiltQuestions();
     headers();
     pieces();
@@ -21,14 +22,17 @@ final class WireTest {
     notTaken();
     passing();
     settling();
+    settlingInOrder();
     settlingAtMost500();
     playing();
     Check.end();
   }
 
+  /** Nothing begins at the time 0, so that times that were never put down show. */
   private static Watch twoHosts() {
     Watch w = new Watch();
     w.x.addHost(600, 500);
+    w.x.pass(70);
     return w;
   }
 
@@ -67,6 +71,10 @@ final class WireTest {
     Check.noIndex("table of none", () -> x.tableAt(5, 0));
     Check.noIndex("table for none", () -> x.tableAt(0, 5));
     Check.due("an empty table", x.tableAt(0, 0), NONE);
+  }
+
+  private static void wire(Watch w, String due) {
+    Check.dueText("the wire", w.wire(), due);
   }
 
   private static void asking() {
@@ -130,6 +138,19 @@ final class WireTest {
     w.x.deliver(1);
     Check.due("others wait on", w.x.hostAt(1, 1), 4);
     w = twoHosts();
+    w.x.addHost(600, 500);
+    w.x.echo(1, 2, 0);
+    w.x.echo(1, 0, 0);
+    w.x.echo(1, 2, 0);
+    w.x.echo(1, 0, 0);
+    w.x.deliver(1);
+    w.x.deliver(1);
+    wire(w, "1>* asks 2; 1>0 echo 1; 1>0 echo 3");
+    Check.due("those for the other host wait on", w.x.hostAt(1, 1), 2);
+    w.x.deliver(0);
+    w.x.deliver(2);
+    wire(w, "1>0 echo 1; 1>0 echo 3; 1>2 echo 0; 1>2 echo 2");
+    w = twoHosts();
     w.x.echo(1, 0, 900);
     for (int k = 0; k < 3; k++) w.x.echo(1, 0, 0);
     w.x.setMtu(1, 100);
@@ -157,6 +178,36 @@ final class WireTest {
     Check.due("it was put there anew", w.x.tableAt(0, 1), 2);
     w.x.pass(100);
     Check.due("and goes", w.x.tableAt(0, 1), NONE);
+  }
+
+  /** Entries of different ages, and more of them than there are hosts. */
+  private static void manyEntries() {
+    Watch w = twoHosts();
+    for (int k = 0; k < 12; k++) {
+      w.x.echo(1, 0, 0);
+      w.x.spoil(0, 31, 64 + k);
+      w.x.deliver(0);
+      w.x.lose(0);
+      w.x.pass(5);
+    }
+    Check.due("twelve addresses", w.x.hostAt(0, 0), 12);
+    w.x.echo(1, 0, 0);
+    w.x.deliver(0);
+    Check.due("and a right one", w.x.tableAt(0, 1), 2);
+    w.x.settle(1);
+    // The first one was put down 60 ticks ago.
+    w.x.pass(100);
+    w.x.pass(39);
+    Check.due("none is gone", w.x.hostAt(0, 0), 13);
+    for (int left = 12; left > 0; left--) {
+      w.x.pass(left == 12 ? 1 : 5);
+      Check.due("one goes", w.x.hostAt(0, 0), left);
+      Check.due("the right one is there", w.x.tableAt(0, 1), 2);
+    }
+    w.x.pass(4);
+    Check.due("until its time", w.x.hostAt(0, 0), 1);
+    w.x.pass(1);
+    Check.due("has come", w.x.hostAt(0, 0), 0);
   }
 
   private static void spoiltQuestions() {
@@ -295,6 +346,19 @@ final class WireTest {
     Check.due("none was taken", w.x.hostAt(0, 4), 1);
     w.x.deliver(1);
     Check.due("the third is whole", w.x.hostAt(0, 4), 2);
+    Check.due("three are left", w.x.hostAt(0, 3), 3);
+    w.x.deliver(1);
+    Check.due("so is the fourth", w.x.hostAt(0, 4), 3);
+    w.x.deliver(1);
+    Check.due("and the fifth", w.x.hostAt(0, 4), 4);
+    w.x.settle(1);
+    for (int k = 1; k < 6; k++) Check.isTrue("answered " + k, w.x.isAnswered(k) == k > 2);
+    Check.due("the first two never", w.x.hostAt(0, 3), 2);
+    w.x.pass(60);
+    Check.due("they go", w.x.hostAt(0, 3), 0);
+    for (int k = 6; k < 9; k++) w.x.echo(1, 0, 100 + k);
+    w.x.settle(1);
+    for (int k = 6; k < 9; k++) Check.isTrue("answered " + k, w.x.isAnswered(k));
   }
 
   private static void mtuChanges() {
@@ -346,12 +410,14 @@ final class WireTest {
     Check.noArgument("spoil by 256", () -> x.spoil(0, 0, 256));
     x.echo(1, 0, 4);
     x.echo(1, 0, 5);
+    Check.due("nothing is spoilt", x.frameAt(0, 2), 0);
     Check.due("the frame before is lost", x.lose(2), 46);
     Check.dueText("the other one is there", w.wire(), "1>0 echo 2");
     Check.due("lost", x.count(4), 1);
     Check.due("spoilt at", x.spoil(1000, 47, 255), 0);
     Check.due("the byte", x.byteAt(0, 0), 0xfd);
     Check.due("it is spoilt", x.frameAt(0, 2), 1);
+    Check.due("it is no piece", x.frameAt(0, 3), 0);
     Check.due("not twice", x.spoil(0, 1, 1), NONE);
     Check.due("its length", x.twice(0), 47);
     Check.due("the double is spoilt", x.frameAt(1, 2), 1);
@@ -413,6 +479,8 @@ final class WireTest {
     Check.noState("settle 2", () -> x.settle(2));
     Check.noState("play 2", () -> x.play(0, 2));
     Check.due("settle 1 can", x.settle(1), 0);
+    // The first draw of the seed 0 is 0, which is no tick.
+    Check.due("play 1 can, too", x.play(0, 1), 19999);
     Check.due("the last one", x.pass(1), 20000);
     Check.noState("one too many", () -> x.pass(1));
     Check.noArgument("argument first", () -> x.pass(101));
@@ -431,7 +499,7 @@ final class WireTest {
     Check.due("still asking", x.connectionAt(0, 0), Lanternserver.SYN_SENT);
     Check.due("two ticks, and no timer is left", x.settle(60), 1);
     Check.due("there", x.connectionAt(0, 0), Lanternserver.ESTABLISHED);
-    Check.due("the time", x.count(0), 10);
+    Check.due("the time", x.count(0), 80);
     w = known();
     for (int round = 0; round < 3; round++) {
       w.x.echo(1, 0, 0);
@@ -440,6 +508,18 @@ final class WireTest {
       w.x.settle(1);
       Check.due("all were delivered", w.x.count(2), 0);
       Check.due("with their answers", w.x.count(3), sent + 100);
+    }
+  }
+
+  private static void settlingInOrder() {
+    Watch w = new Watch();
+    w.x.addHost(600, 500);
+    for (int k = 0; k < 3; k++) w.x.connect(1, 0, 80);
+    w.x.settle(1);
+    for (int k = 0; k < 3; k++) w.write(k, "GET / HTTP/1.0\r\n\r\n");
+    w.x.settle(1);
+    for (int k = 0; k < 3; k++) {
+      Check.due("served in order", w.x.connectionAt(w.x.servedAt(k, 0), 2), k);
     }
   }
 
@@ -466,8 +546,9 @@ final class WireTest {
     Lanternserver x = w.x;
     Check.noArgument("many 0", () -> x.play(1, 0));
     Check.noArgument("many 201", () -> x.play(1, 201));
+    Check.isTrue("200", x.play(1, 200) > 70);
     // The same draws, made by hand on another object.
-    for (int seed = -7; seed < 8; seed++) {
+    for (int seed = -40; seed < 40; seed++) {
       Watch played = known();
       Watch made = known();
       for (int k = 0; k < 3; k++) {
