@@ -414,8 +414,9 @@ public final class Lanternserver {
   public int answerAt(int request, int index) throws IndexOutOfBoundsException {
     if (request < 0 || request >= servedMany()) throw new IndexOutOfBoundsException("no such request");
     if (index < 0 || index >= servedNumber(request, 3)) throw new IndexOutOfBoundsException("no such byte");
-    Row out = connections.get(servedNumber(request, 0)).sender.out;
-    return out.at(servedNumber(request, SERVED_BEGIN) + index);
+    int connection = servedNumber(request, 0);
+    if (!hasConnection(connection)) throw new IndexOutOfBoundsException("no such request");
+    return connections.get(connection).sender.out.at(servedNumber(request, SERVED_BEGIN) + index);
   }
 
   // ---- counts and checks
@@ -1031,9 +1032,10 @@ public final class Lanternserver {
       return NONE;
     }
 
+    /** Returns the sum of section 4 over a part, with what was added up ahead of it; NONE if there is no such part. */
     int sumOver(int from, int behind, int head) {
       long total = head;
-      if (from < 0 || behind > length) return 0;
+      if (from < 0 || behind > length) return NONE;
       for (int k = from; k < behind; k += 2) total += cells[k] << 8 | (k + 1 < behind ? cells[k + 1] : 0);
       for (int k = 0; k < 4; k++) total = (total & 65535) + (total >>> 16);
       return (int) (65535 - total);

@@ -32,6 +32,7 @@ final class ConnectionTest {
     doublesInARow();
     oldWindows();
     probing();
+    probingLater();
     pieces();
     lowWindows();
     servingWindows();
@@ -460,6 +461,18 @@ final class ConnectionTest {
     w.x.settle(1);
     is(w, 0, 11, 0);
     is(w, 0, 16, 0);
+    // The timer begins anew as something of what is under way is acknowledged.
+    w = begun(40);
+    w.write(0, x(80));
+    w.x.pass(2);
+    w.x.deliver(0);
+    w.x.deliver(1);
+    is(w, 0, 4, 90);
+    w.x.lose(0);
+    w.x.pass(w.x.connectionAt(0, 10) - 1);
+    is(w, 0, 16, 0);
+    w.x.pass(1);
+    is(w, 0, 16, 1);
     // FIN is sent again, if no byte is left.
     w = open(40);
     w.x.close(0, false);
@@ -599,6 +612,41 @@ final class ConnectionTest {
     w = full(1);
     Check.due("ticks", w.x.settle(3), 3);
     Check.isTrue("it runs on", w.x.settle(60) == 60);
+  }
+
+  /** The server has closed, and reads no more: its window goes to 0, and the client writes later. */
+  private static void probingLater() {
+    Watch w = open(300);
+    w.write(0, "GET / HTTP/1.0\r\n\r\n");
+    w.x.settle(5);
+    w.write(0, x(300));
+    w.x.settle(5);
+    is(w, 0, 7, 0);
+    is(w, 0, 11, 0);
+    Check.due("no timer runs", w.x.settle(5), 0);
+    w.x.pass(9);
+    int rto = w.x.connectionAt(0, 10);
+    w.write(0, "ab");
+    wireCount(w, 0);
+    w.x.pass(rto - 2);
+    w.write(0, "c");
+    w.x.pass(1);
+    wireCount(w, 0);
+    w.x.pass(1);
+    Check.isTrue("one byte, not the last one", w.frame(0).startsWith("1>0 A 319 ") && w.frame(0).endsWith(" b1"));
+    w.x.deliver(0);
+    Check.isTrue("is not taken", w.frame(0).startsWith("0>1 A ") && w.frame(0).contains(" 319 w0 b0"));
+    w.x.settle(1);
+    is(w, 0, 4, 319);
+    is(w, 0, 5, 320);
+    Watch v = open(300);
+    v.write(0, "GET / HTTP/1.0\r\n\r\n");
+    v.x.settle(5);
+    v.write(0, x(300));
+    v.x.settle(5);
+    v.write(0, "a");
+    v.x.pass(v.x.connectionAt(0, 10));
+    Check.isTrue("the last byte", v.frame(0).startsWith("1>0 PA 319 "));
   }
 
   private static void wireCount(Watch w, int due) {

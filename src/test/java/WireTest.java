@@ -191,9 +191,10 @@ final class WireTest {
       w.x.pass(5);
     }
     Check.due("twelve addresses", w.x.hostAt(0, 0), 12);
-    w.x.echo(1, 0, 0);
+    w.x.addHost(600, 500);
+    w.x.echo(2, 0, 0);
     w.x.deliver(0);
-    Check.due("and a right one", w.x.tableAt(0, 1), 2);
+    Check.due("and a right one", w.x.tableAt(0, 2), 3);
     w.x.settle(1);
     // The first one was put down 60 ticks ago.
     w.x.pass(100);
@@ -202,7 +203,7 @@ final class WireTest {
     for (int left = 12; left > 0; left--) {
       w.x.pass(left == 12 ? 1 : 5);
       Check.due("one goes", w.x.hostAt(0, 0), left);
-      Check.due("the right one is there", w.x.tableAt(0, 1), 2);
+      Check.due("the right one is there", w.x.tableAt(0, 2), 3);
     }
     w.x.pass(4);
     Check.due("until its time", w.x.hostAt(0, 0), 1);
