@@ -357,7 +357,7 @@ public final class Lanternserver {
     int got = from.takeUnread(many);
     from.transmit();
     postAll();
-    return got == 0 && from.isEndTold ? NONE : got;
+    return got == 0 && from.isEndTold() ? NONE : got;
   }
 
   public int readAt(int connection, int index) throws IndexOutOfBoundsException {
@@ -782,7 +782,7 @@ public final class Lanternserver {
         told = reader.feed(to.receiver.in.at(to.receiver.taken - 1));
       }
       if (told == 0) {
-        if (to.isEndTold) to.finish();
+        if (to.isEndTold()) to.finish();
         return;
       }
       int begin = to.sender.out.length();
@@ -856,7 +856,7 @@ public final class Lanternserver {
     int read = one.receiver.taken;
     if (!hasConnection(one.other)) return read > 0;
     Sender wrote = connections.get(one.other).sender;
-    if (read > wrote.wrote || one.isEndTold && read < wrote.wrote) return true;
+    if (read > wrote.wrote || one.isEndTold() && read < wrote.wrote) return true;
     return !one.receiver.in.isSame(0, wrote.out, 0, read);
   }
 
@@ -1757,7 +1757,6 @@ public final class Lanternserver {
     int other = NONE;
     boolean isClosed;
     boolean isLast;
-    boolean isEndTold;
     int requests;
     int cameAt;
     int waitFrom;
@@ -2061,8 +2060,12 @@ public final class Lanternserver {
       if (state != CLOSED && before < LOW_WINDOW && receiver.window() >= LOW_WINDOW) {
         emit(ACK, sender.nxt, 0, 0);
       }
-      if (receiver.hasFin && receiver.unread() == 0) isEndTold = true;
       return many;
+    }
+
+    /** The end counts as told as soon as there is nothing ahead of it that was not read, whoever asks. */
+    boolean isEndTold() {
+      return receiver.hasFin && receiver.unread() == 0;
     }
 
     int tell(int what) {
@@ -2085,7 +2088,7 @@ public final class Lanternserver {
         case 15: return ended;
         case 16: return sender.times;
         case 17: return mss;
-        default: return isEndTold ? 1 : 0;
+        default: return isEndTold() ? 1 : 0;
       }
     }
   }

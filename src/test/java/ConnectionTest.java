@@ -22,6 +22,9 @@ final class ConnectionTest {
     writing();
     writingAhead();
     reading();
+    endTold();
+    endNotTold();
+    endToldToTheServer();
     lesserMss();
     growing();
     growingAboveTheThreshold();
@@ -334,6 +337,91 @@ final class ConnectionTest {
     Check.due("read then", v.x.read(0, 20), 20);
     v.x.settle(1);
     Check.due("no ACK", v.x.count(2), 0);
+  }
+
+  /** The end is told when FIN has come and all was read, also if nothing was there to be read. */
+  private static void endTold() {
+    Watch w = open(250);
+    is(w, 0, 18, 0);
+    is(w, 1, 18, 0);
+    w.x.close(0, false);
+    is(w, 0, 18, 0);
+    w.x.settle(1);
+    is(w, 0, 0, Lanternserver.TIME_WAIT);
+    is(w, 0, 14, 0);
+    is(w, 0, 18, 1);
+    is(w, 1, 18, 1);
+    Check.due("read says so", w.x.read(0, 1), NONE);
+    w.x.pass(40);
+    is(w, 0, 0, Lanternserver.CLOSED);
+    is(w, 0, 18, 1);
+    is(w, 1, 18, 1);
+    // FIN comes behind bytes that were read already.
+    Watch v = open(250);
+    v.write(0, GET);
+    v.x.settle(3);
+    int length = v.x.connectionAt(0, 12);
+    Check.due("all of the answer", v.x.read(0, 300), length);
+    is(v, 0, 18, 0);
+    v.x.close(0, false);
+    v.x.settle(3);
+    is(v, 0, 18, 1);
+    is(v, 0, 14, length);
+    is(v, 1, 18, 1);
+  }
+
+  private static void endNotTold() {
+    Watch w = open(250);
+    w.write(0, "GET / HTTP/1.0\r\n\r\n");
+    w.x.deliver(0);
+    // The request is acknowledged, the answer goes, and FIN behind it, which is delivered first.
+    Check.due("ACK, answer, FIN", w.x.count(2), 3);
+    Check.isTrue("the last one is FIN", w.frame(2).startsWith("0>1 FA "));
+    w.x.deliver(2);
+    is(w, 0, 0, Lanternserver.ESTABLISHED);
+    is(w, 0, 18, 0);
+    Check.due("nothing was there", w.x.read(0, 300), 0);
+    is(w, 0, 18, 0);
+    w.x.settle(30);
+    int length = w.x.servedAt(0, 3);
+    is(w, 0, 0, Lanternserver.CLOSE_WAIT);
+    is(w, 0, 18, 0);
+    Check.due("all but one", w.x.read(0, length - 1), length - 1);
+    is(w, 0, 18, 0);
+    Check.due("the last one", w.x.read(0, 300), 1);
+    is(w, 0, 18, 1);
+    // An end by RST is none that is told.
+    Watch v = open(250);
+    v.x.close(0, true);
+    v.x.settle(1);
+    is(v, 1, 15, Lanternserver.RESET);
+    is(v, 0, 18, 0);
+    is(v, 1, 18, 0);
+    Check.due("nothing, and no end", v.x.read(0, 300), 0);
+    is(v, 0, 18, 0);
+  }
+
+  /** A server that wrote its last answer reads no more: bytes that come then keep the end from being told. */
+  private static void endToldToTheServer() {
+    Watch w = open(250);
+    w.write(0, "GET / HTTP/1.0\r\n\r\n");
+    w.x.settle(3);
+    is(w, 1, 0, Lanternserver.FIN_WAIT_2);
+    is(w, 1, 18, 0);
+    w.x.close(0, false);
+    w.x.settle(3);
+    is(w, 1, 0, Lanternserver.TIME_WAIT);
+    is(w, 1, 18, 1);
+    Watch v = open(250);
+    v.write(0, "GET / HTTP/1.0\r\n\r\n");
+    v.x.settle(3);
+    v.write(0, "x");
+    v.x.close(0, false);
+    v.x.settle(3);
+    is(v, 1, 0, Lanternserver.TIME_WAIT);
+    is(v, 1, 12, 1);
+    is(v, 1, 18, 0);
+    Check.due("errors", v.x.errors(), 0);
   }
 
   private static void lesserMss() {
