@@ -58,7 +58,7 @@ final class ConnectionTest {
     Check.end();
   }
 
-  private static Watch known(int mtu, int mss) {
+  static Watch known(int mtu, int mss) {
     Watch w = new Watch();
     w.x.addHost(mtu, mss);
     w.x.pass(BEGIN);
@@ -68,7 +68,7 @@ final class ConnectionTest {
   }
 
   /** Client's connection 0 and server's connection 1, both ESTABLISHED two ticks ago. */
-  private static Watch open(int mss) {
+  static Watch open(int mss) {
     Watch w = known(600, mss);
     w.x.connect(1, 0, 80);
     w.x.settle(1);
@@ -77,7 +77,7 @@ final class ConnectionTest {
   }
 
   /** Likewise, with a request begun, of which 300 bytes are to come. */
-  private static Watch begun(int mss) {
+  static Watch begun(int mss) {
     Watch w = open(mss);
     w.write(0, HEAD);
     w.x.settle(1);
@@ -571,7 +571,7 @@ final class ConnectionTest {
   }
 
   /** Client of MSS 40 with 200 bytes, five segments, under way. */
-  private static Watch five() {
+  static Watch five() {
     Watch w = begun(40);
     for (int k = 0; k < 2; k++) {
       w.write(0, "a");
@@ -647,7 +647,7 @@ final class ConnectionTest {
   }
 
   /** A file of 300 bytes, and as many requests for it as are told, which the client does not read. */
-  private static Watch full(int many) {
+  static Watch full(int many) {
     Watch w = begun(300);
     w.write(0, x(300));
     w.x.settle(1);

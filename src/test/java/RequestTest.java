@@ -1,12 +1,12 @@
 /** Promises 32 to 35, and section 9: requests, files and answers. */
 final class RequestTest {
-  private static final String H = " HTTP/1.1\r\nHost: h\r\n";
+  static final String H = " HTTP/1.1\r\nHost: h\r\n";
 
   /** A client, and as many connections one after the other as it needs. */
-  private final Watch w = new Watch();
-  private int connection = -1;
+  final Watch w = new Watch();
+  int connection = -1;
 
-  private RequestTest() {
+  RequestTest() {
     w.x.addHost(600, 500);
   }
 
@@ -47,7 +47,7 @@ final class RequestTest {
   }
 
   /** Sends a text, and returns the answer to the request that it made, or "" if it made none. */
-  private String ask(String text) {
+  String ask(String text) {
     open();
     int before = w.x.count(10);
     String rest = text;
@@ -65,13 +65,13 @@ final class RequestTest {
     return w.answer(before);
   }
 
-  private int code(String text) {
+  int code(String text) {
     String answer = ask(text);
     return answer.isEmpty() ? 0 : Integer.parseInt(answer.substring(9, 12));
   }
 
   /** The text is wrong at its last byte, and not ahead of it. */
-  private static void wrongAtItsEnd(int code, String text) {
+  static void wrongAtItsEnd(int code, String text) {
     RequestTest t = new RequestTest();
     Check.due("ahead of the end of " + text, t.code(text.substring(0, text.length() - 1)), 0);
     t = new RequestTest();
@@ -81,11 +81,11 @@ final class RequestTest {
     Check.isTrue("says so: " + text, t.w.answer(0).contains("\r\nConnection: close\r\n"));
   }
 
-  private static void whole(int code, String text) {
+  static void whole(int code, String text) {
     wholeButLast(code, text, 0);
   }
 
-  private static void wholeButLast(int code, String text, int last) {
+  static void wholeButLast(int code, String text, int last) {
     RequestTest t = new RequestTest();
     Check.due("code of " + text, t.code(text + "G"), code);
     Check.due("bytes of " + text, t.w.x.servedAt(0, 4), text.length());

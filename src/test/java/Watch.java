@@ -143,6 +143,68 @@ final class Watch {
     return text.toString();
   }
 
+  /** Tells all that can be asked for, so that two moments, or two objects, can be compared. */
+  String all() {
+    StringBuilder text = new StringBuilder();
+    for (int what = 0; what <= 15; what++) text.append(x.count(what)).append(' ');
+    text.append(x.agrees()).append(' ').append(x.errors()).append(' ').append(x.deliveredShare()).append(' ')
+        .append(x.meanAnswer()).append("\ntape");
+    for (int k = 0; k < x.count(15); k++) text.append(' ').append(255 - (x.sum(k, k + 1) >> 8));
+    for (int h = 0; h < x.count(1); h++) {
+      text.append("\nhost");
+      for (int what = 0; what <= 5; what++) text.append(' ').append(x.hostAt(h, what));
+      for (int other = 0; other < x.count(1); other++) text.append(' ').append(x.tableAt(h, other));
+    }
+    for (int f = 0; f < x.count(2); f++) {
+      text.append("\nframe");
+      for (int what = 0; what <= 3; what++) text.append(' ').append(x.frameAt(f, what));
+      text.append(": ").append(hex(f, 0, 614));
+    }
+    text.append("\nanswered");
+    for (int k = 0; k < echoes(); k++) text.append(' ').append(x.isAnswered(k));
+    text.append("\nfound");
+    for (int k = 0; k < lookups(); k++) text.append(' ').append(x.found(k));
+    for (int k = 0; k < x.count(6); k++) text.append("\n").append(connection(k)).append(' ').append(read(k, 0));
+    for (int k = 0; k < x.count(8); k++) text.append("\n").append(file(k));
+    for (int k = 0; k < x.count(10); k++) {
+      text.append("\nserved");
+      for (int what = 0; what <= 6; what++) text.append(' ').append(x.servedAt(k, what));
+      text.append(' ').append(answer(k));
+    }
+    return text.toString();
+  }
+
+  /** The MTU of each host, which only setMtu() tells. */
+  String mtus() {
+    StringBuilder text = new StringBuilder();
+    for (int h = 0; h < x.count(1); h++) {
+      int mtu = x.setMtu(h, 600);
+      x.setMtu(h, mtu);
+      text.append(mtu).append(' ');
+    }
+    return text.toString();
+  }
+
+  int echoes() {
+    for (int k = 0; ; k++) {
+      try {
+        x.isAnswered(k);
+      } catch (IndexOutOfBoundsException none) {
+        return k;
+      }
+    }
+  }
+
+  int lookups() {
+    for (int k = 0; ; k++) {
+      try {
+        x.found(k);
+      } catch (IndexOutOfBoundsException none) {
+        return k;
+      }
+    }
+  }
+
   String connection(int connection) {
     StringBuilder text = new StringBuilder();
     for (int k = 0; k <= 18; k++) text.append(k > 0 ? " " : "").append(x.connectionAt(connection, k));
