@@ -12,6 +12,7 @@ final class ArrivalEdgeTest {
     resetWhileWaiting();
     doublesWithoutBytes();
     doublesWithoutFin();
+    doublesWithoutOneByte();
     doublesOfSomethingUnderWay();
     doublesOfNothingNew();
     doublesBehindOthers();
@@ -28,6 +29,9 @@ final class ArrivalEdgeTest {
     readWhenClosed();
     eachState();
     patienceWithOpenOnes();
+    timerAheadOfPatience();
+    tableAheadOfTheTimer();
+    cwndByFin();
     readings();
     otherEnds();
     Check.end();
@@ -203,19 +207,41 @@ final class ArrivalEdgeTest {
     Check.due("no double", w.x.count(12), 0);
   }
 
+  /** Likewise: a segment with one byte has bytes. */
+  private static void doublesWithoutOneByte() {
+    Watch w = ConnectionTest.full(1);
+    w.x.pass(4);
+    Check.due("the one byte beyond the window", w.x.frameAt(0, 0), 55);
+    w.write(0, "H");
+    w.x.lose(1);
+    for (int k = 0; k < 4; k++) w.x.twice(0);
+    for (int k = 0; k < 5; k++) w.x.deliver(0);
+    is(w, 0, 7, 300);
+    Check.due("no double", w.x.count(12), 0);
+    is(w, 0, 9, 2000);
+  }
+
   private static void doublesOfSomethingUnderWay() {
-    Watch w = ConnectionTest.open(300);
-    w.write(0, "G");
-    w.x.deliver(0);
-    for (int k = 0; k < 5; k++) w.x.twice(0);
-    for (int k = 0; k < 4; k++) w.x.deliver(0);
-    is(w, 0, 7, 299);
-    is(w, 0, 4, 2);
-    w.write(0, "E");
-    w.x.deliver(0);
-    w.x.deliver(0);
-    Check.due("two of six have something under way", w.x.count(12), 0);
-    frames("the byte alone", w, 1);
+    for (int early = 0; early < 5; early++) {
+      Watch w = ConnectionTest.open(300);
+      w.write(0, "G");
+      w.x.deliver(0);
+      for (int k = 0; k < 7; k++) w.x.twice(0);
+      // One that is new, and some while nothing is under way.
+      for (int k = 0; k <= early; k++) w.x.deliver(0);
+      is(w, 0, 7, 299);
+      is(w, 0, 4, 2);
+      is(w, 0, 9, 2000);
+      is(w, 0, 8, 600);
+      w.write(0, "E");
+      w.x.deliver(0);
+      w.x.deliver(0);
+      Check.due("two have something under way", w.x.count(12), 0);
+      w.x.deliver(0);
+      Check.due("three have", w.x.count(12), 1);
+      is(w, 0, 8, 600);
+      is(w, 0, 9, 600);
+    }
   }
 
   /** Client of MSS 40 whose third of seven segments is lost, with what the server says to the others. */
@@ -652,6 +678,72 @@ final class ArrivalEdgeTest {
       Check.isTrue("400 ticks", k < 399 || w.x.connectionAt(1, 0) == Lanternserver.CLOSED);
     }
     is(w, 1, 15, Lanternserver.ABORTED);
+  }
+
+  /** pass(): "TIME_WAIT, the timer, then the server's patience": both at one tick. */
+  private static void timerAheadOfPatience() {
+    Watch w = ConnectionTest.open(300);
+    w.write(0, LIST);
+    w.x.deliver(0);
+    w.x.deliver(0);
+    while (w.x.connectionAt(1, 10) < 80) {
+      loseAll(w);
+      w.x.pass(1);
+    }
+    // What is sent again is not measured, so that rto stays.
+    deliverAll(w);
+    is(w, 1, 11, 0);
+    w.write(0, LIST);
+    w.x.deliver(0);
+    w.x.deliver(0);
+    int begin = w.x.count(0);
+    loseAll(w);
+    w.x.addHost(600, 500);
+    while (w.x.count(0) < begin + 399) {
+      w.x.pass(1);
+      // A question of the client's for another host keeps it in the server's table.
+      if (w.x.count(0) == begin + 300) w.x.echo(1, 2, 0);
+      for (int k = 0; k < 9 && w.x.count(2) > 0; k++) {
+        if (w.frame(0).contains("asks") || w.frame(0).contains("tells")) w.x.deliver(0);
+        else w.x.lose(0);
+      }
+    }
+    is(w, 1, 16, 4);
+    is(w, 0, 16, 0);
+    w.x.pass(1);
+    frames("both", w, 2);
+    Check.isTrue("the timer's", w.frame(0).startsWith("0>1 PA ") && w.frame(0).endsWith(" b50"));
+    Check.isTrue("then RST", w.frame(1).startsWith("0>1 RA "));
+    is(w, 1, 16, 5);
+    is(w, 1, 15, Lanternserver.ABORTED);
+  }
+
+  /** pass(): "what is in the table .. goes; then the host's connections": what they send at this tick waits. */
+  private static void tableAheadOfTheTimer() {
+    for (int early = 0; early < 2; early++) {
+      Watch w = ConnectionTest.known(600, 300);
+      // Put down at the time 7.
+      w.x.pass(100);
+      w.x.pass(90 - early);
+      w.x.connect(1, 0, 80);
+      w.x.lose(0);
+      w.x.pass(10);
+      Check.due("time", w.x.count(0), 207 - early);
+      Check.dueText("sent again", w.wire(), early == 1 ? "1>0 S 0 0 w300 b0" : "1>* asks 0");
+      Check.due("waits", w.x.hostAt(1, 1), 1 - early);
+    }
+  }
+
+  /** "If una is ahead of it: these bytes (and FIN) are gone, una is it; cwnd grows": also if it is FIN alone. */
+  private static void cwndByFin() {
+    Watch w = ConnectionTest.open(300);
+    is(w, 0, 8, 300);
+    w.x.close(0, false);
+    w.x.settle(1);
+    is(w, 0, 8, 600);
+    is(w, 1, 8, 600);
+    is(w, 0, 4, 2);
+    is(w, 0, 11, 0);
   }
 
   /** read(): "how many bytes at most, 1 to 300"; "NONE if none, and the end was told"; readAt(): the last byte read. */

@@ -18,6 +18,8 @@ final class RequestEdgeTest {
     valuesWithColons();
     digits();
     namesOfMethods();
+    connectionsThatStay();
+    namesThatMeanNothing();
     optionsOfTargets();
     everyRange();
     tagsOfThreeDigits();
@@ -202,6 +204,41 @@ final class RequestEdgeTest {
       RequestTest.wrongAtItsEnd(501, "X" + method.substring(1) + rest);
       RequestTest.wrongAtItsEnd(501, method.substring(0, method.length() - 1) + "X" + rest);
     }
+  }
+
+  /** "Connection: close; HTTP/1.0 without Connection: keep-alive": "the last one counts", also if it is another value. */
+  private static void connectionsThatStay() {
+    String[] values = {"close", "keep-alive", "CLOSE", "Keep-Alive", "closed", "keep-aliv", "keep alive", "", "x"};
+    int[] kinds = {1, 2, 1, 2, 0, 0, 0, 0, 0};
+    for (int version = 0; version < 2; version++) {
+      String head = "GET / HTTP/1." + version + "\r\nHost: h\r\n";
+      RequestTest.wholeButLast(200, head + "\r\n", 1 - version);
+      for (int k = 0; k < values.length; k++) {
+        int last = kinds[k] == 1 || kinds[k] == 0 && version == 0 ? 1 : 0;
+        RequestTest.wholeButLast(200, head + "Connection: " + values[k] + "\r\n\r\n", last);
+        for (String first : new String[] {"close", "keep-alive"}) {
+          RequestTest.wholeButLast(200, head + "Connection: " + first + "\r\nConnection: " + values[k] + "\r\n\r\n", last);
+        }
+      }
+    }
+  }
+
+  /** "NAMEs are letters and -, small ones like great ones": others than those known do nothing. */
+  private static void namesThatMeanNothing() {
+    RequestTest t = new RequestTest();
+    t.ask("PUT /a" + H + "Content-Length: 3\r\n\r\nabc");
+    String[] names = {"X", "Rang", "Ranges", "If-Rang", "-Range", "Range-"};
+    for (String name : names) Check.due(name, t.code("GET /a" + H + name + ": bytes=0-0\r\n\r\n"), 200);
+    String[] conditions = {"If-Matc", "If-Matches", "IfMatch", "If-None-Matc", "If-NoneMatch", "None-Match", "Match"};
+    for (String name : conditions) Check.due(name, t.code("GET /a" + H + name + ": \"v2\"\r\n\r\n"), 200);
+    for (String name : conditions) Check.due(name, t.code("GET /a" + H + name + ": *\r\n\r\n"), 200);
+    Check.due("RANGE", t.code("GET /a" + H + "RANGE: bytes=0-0\r\n\r\n"), 206);
+    Check.due("iF-mATCH", t.code("GET /a" + H + "iF-mATCH: \"v2\"\r\n\r\n"), 412);
+    Check.due("IF-NONE-MATCH", t.code("GET /a" + H + "IF-NONE-MATCH: *\r\n\r\n"), 304);
+    Check.due("a value is not", t.code("GET /a" + H + "Range: BYTES=0-0\r\n\r\n"), 200);
+    Check.due("nor a tag", t.code("GET /a" + H + "If-Match: \"V1\"\r\n\r\n"), 412);
+    Check.due("nor a target", t.code("GET /A" + H + "\r\n"), 404);
+    RequestTest.wrongAtItsEnd(411, "PUT /a" + H + "Content_Length".replace('_', 'X') + ": 1\r\n\r\n");
   }
 
   /** "Others have 404 (400 without / at the beginning; OPTIONS can have *)": and only a 204 of OPTIONS tells what it lets. */

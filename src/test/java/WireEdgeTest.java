@@ -247,6 +247,15 @@ final class WireEdgeTest {
       Check.due("an answer that is none", w.x.hostAt(1, 5), 1);
       Check.due("so that it waits on", w.x.hostAt(1, 1), 1);
     }
+    for (int at = 12; at < 14; at++) {
+      Watch w = hosts(1);
+      w.x.echo(1, 0, 0);
+      w.x.spoil(0, at, at == 12 ? 8 : 1);
+      w.x.deliver(0);
+      Check.due("a message of another type", w.x.hostAt(0, 5), 1);
+      Check.due("puts nothing down", w.x.hostAt(0, 0), 0);
+      Check.due("and has no answer", w.x.count(2), 0);
+    }
     Watch w = hosts(1);
     w.x.echo(1, 0, 0);
     w.x.deliver(0);
