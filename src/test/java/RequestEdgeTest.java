@@ -14,6 +14,7 @@ final class RequestEdgeTest {
     everyByteOfTheHead();
     everyByteOfTheBody();
     everyByteAtALimit();
+    limitsOfTheNextOne();
     valuesWithoutBlanks();
     valuesWithColons();
     digits();
@@ -63,6 +64,8 @@ final class RequestEdgeTest {
     Check.due("code of " + what, w.x.servedAt(0, 2), code);
     Check.due("how many bytes with " + what, w.x.servedAt(0, 4), ahead.length() + 1);
     Check.due("the last one by " + what, w.x.servedAt(0, 5), code < 400 ? 0 : 1);
+    Check.isTrue("agrees with " + what, w.x.agrees());
+    Check.due("errors with " + what, w.x.errors(), 0);
   }
 
   /** "400 a byte that cannot stand where it stands (also a byte that is none of 32 to 126, 13 and 10; 13 without 10 ..)". */
@@ -124,6 +127,30 @@ final class RequestEdgeTest {
       tells(name, b, isLetter(b) || b == '-' || b == ':' ? 431 : 400);
       tells(value, b, b == 13 ? 0 : isSeen || b == 32 ? 431 : 400);
       tells(value + "\r", b, b == 10 ? 0 : 400);
+    }
+  }
+
+  /** All limits stand anew for the next request of a connection, behind one that had come to them. */
+  private static void limitsOfTheNextOne() {
+    String line = "GET /" + repeat("a", 39) + " HTTP/1.1\r\n";
+    String lines = "Host: h\r\n" + repeat("A:\r\n", 5) + "Content-Length: 300\r\nX:" + repeat("b", 98) + "\r\n";
+    String full = line + lines + "\r\n" + repeat("x", 300);
+    String chunked = "PUT /a" + H + "Transfer-Encoding: chunked\r\n\r\n012C\r\n"
+        + repeat("y", 300) + "\r\n0000\r\n\r\n";
+    String[] behind = {full, chunked, "GET " + repeat("/", 41), line + lines + "Y", repeat("G", 101), CHUNKS + "12d\r",
+        "GET /" + H + "Content-Length: 301\r\n\r\n", "GET /" + H + "X:" + repeat("b", 99), "OPTIONS *" + H + "\r\n"};
+    int[] codes = {404, 201, 414, 431, 431, 413, 413, 431, 204};
+    for (String first : new String[] {full, chunked}) {
+      for (int k = 0; k < behind.length; k++) {
+        RequestTest t = new RequestTest();
+        t.ask(first + behind[k]);
+        Check.due("two of them", t.w.x.count(10), 2);
+        // The file is there already, if both of them put it.
+        boolean isThere = first == chunked && behind[k] == chunked;
+        Check.due("the second", t.w.x.servedAt(1, 2), isThere ? 204 : codes[k]);
+        Check.due("its bytes", t.w.x.servedAt(1, 4), behind[k].length());
+        Check.isTrue("agrees", t.w.x.agrees());
+      }
     }
   }
 
@@ -238,7 +265,7 @@ final class RequestEdgeTest {
     Check.due("a value is not", t.code("GET /a" + H + "Range: BYTES=0-0\r\n\r\n"), 200);
     Check.due("nor a tag", t.code("GET /a" + H + "If-Match: \"V1\"\r\n\r\n"), 412);
     Check.due("nor a target", t.code("GET /A" + H + "\r\n"), 404);
-    RequestTest.wrongAtItsEnd(411, "PUT /a" + H + "Content_Length".replace('_', 'X') + ": 1\r\n\r\n");
+    RequestTest.wrongAtItsEnd(411, "PUT /a" + H + "ContentLength: 1\r\n\r\n");
   }
 
   /** "Others have 404 (400 without / at the beginning; OPTIONS can have *)": and only a 204 of OPTIONS tells what it lets. */

@@ -21,6 +21,8 @@ final class SegmentEdgeTest {
     timesWithoutOne();
     sentAgainUpToAnMss();
     finBehindTheOneByte();
+    nothingWhenClosed();
+    halfOrTwice();
     oneByteIsMeasured();
     lastByteOfTheMeasured();
     rtoAtMost80();
@@ -464,6 +466,52 @@ final class SegmentEdgeTest {
     Check.isTrue("FIN", w.frame(2).startsWith("1>0 FA 320 "));
     w.x.read(0, 1);
     Check.due("once", w.x.count(2), 3);
+  }
+
+  /** "That is done in the states ESTABLISHED, ..": when it is CLOSED, FIN that could go does not. */
+  private static void nothingWhenClosed() {
+    Watch w = lastByteWaits();
+    w.x.pass(w.x.connectionAt(0, 10));
+    Check.due("the byte", w.x.count(2), 2);
+    w.x.close(0, true);
+    Check.due("RST alone", w.x.count(2), 3);
+    Check.isTrue("behind the byte", w.frame(2).startsWith("1>0 RA 320 "));
+    w.x.read(0, 300);
+    Check.due("nothing by reading", w.x.count(2), 3);
+    w.x.pass(100);
+    Check.due("nothing by time", w.x.count(2), 3);
+  }
+
+  /** "the threshold becomes the greater one of half of what is under way and twice the MSS" (cut): 80 and 81. */
+  private static void halfOrTwice() {
+    int[] underWay = {1, 159, 160, 161, 162, 163, 164, 199, 200};
+    for (int many : underWay) {
+      Watch w = ConnectionTest.begun(40);
+      for (int k = 0; k < 2; k++) {
+        w.write(0, "a");
+        w.x.settle(1);
+      }
+      w.write(0, x(many));
+      loseAll(w);
+      is(w, 0, 8, 200);
+      w.x.pass(4);
+      is(w, 0, 9, Math.max(80, many / 2));
+      is(w, 0, 8, 40);
+      // At the third double likewise, with cwnd as the threshold.
+      w = ConnectionTest.begun(40);
+      for (int k = 0; k < 2; k++) {
+        w.write(0, "a");
+        if (k == 0) w.x.settle(1);
+      }
+      w.x.deliver(0);
+      for (int k = 0; k < 4; k++) w.x.twice(0);
+      w.x.deliver(0);
+      w.write(0, x(many));
+      while (w.x.count(2) > 4) w.x.lose(4);
+      for (int k = 0; k < 3; k++) w.x.deliver(0);
+      is(w, 0, 9, Math.max(80, many / 2));
+      is(w, 0, 8, Math.max(80, many / 2));
+    }
   }
 
   /** "the first one with bytes that is sent when none is, also that one byte". */

@@ -11,6 +11,7 @@ final class WireEdgeTest {
     lastPlaceOnTheWire();
     choicesAndPlaces();
     spoiltOnce();
+    piecesAreNotSpoilt();
     firstQuestion();
     askedByAddress();
     lengthAndKind();
@@ -30,6 +31,7 @@ final class WireEdgeTest {
     putAgain();
     tickByTick();
     settlesToTheLastTick();
+    settlesToTheLastFrame();
     playsEachAct();
     Check.end();
   }
@@ -185,6 +187,26 @@ final class WireEdgeTest {
     Check.due("its sender stands apart from that", w.x.frameAt(2, 1), 1);
     w.x.echo(0, 1, 3);
     Check.due("the server's, not spoilt", w.x.frameAt(3, 1) + w.x.frameAt(3, 2), 0);
+  }
+
+  /** "and none that carries a piece of a datagram": neither the first, nor one between, nor the last. */
+  private static void piecesAreNotSpoilt() {
+    Watch w = known(1);
+    w.x.setMtu(1, 100);
+    w.x.echo(1, 0, 200);
+    w.x.echo(1, 0, 72);
+    for (int k = 0; k < 4; k++) {
+      String before = w.hex(k, 0, 614);
+      boolean isPiece = k < 3;
+      Check.due("is a piece", w.x.frameAt(k, 3), isPiece ? 1 : 0);
+      Check.due("can be spoilt", w.x.spoil(k, 5, 1), isPiece ? NONE : 5);
+      Check.due("is spoilt", w.x.frameAt(k, 2), isPiece ? 0 : 1);
+      Check.isTrue("as it was", w.hex(k, 0, 614).equals(before) == isPiece);
+    }
+    Check.due("once", w.x.count(5), 1);
+    w.x.twice(1);
+    Check.due("the double of a piece is one", w.x.frameAt(4, 3), 1);
+    Check.due("and cannot be spoilt", w.x.spoil(4, 0, 1), NONE);
   }
 
   // ---- section 3
@@ -617,6 +639,56 @@ final class WireEdgeTest {
     w.x.echo(1, 0, 0);
     Check.due("no timer, no tick", w.x.settle(60), 0);
     Check.isTrue("but all frames", w.x.isAnswered(1));
+  }
+
+  /** "at most 500 of them in the whole call (with the 500th it ends)": 499 frames and a tick, 500 and none, 501. */
+  private static void settlesToTheLastFrame() {
+    int least = deliveries(many(0));
+    Check.isTrue("frames of their own: " + least, least > 450 && least < 499);
+    for (int all = 499; all <= 502; all++) {
+      int due = deliveries(many(all - least));
+      Check.due("frames in all", due, all);
+      Watch w = many(all - least);
+      int time = w.x.count(0);
+      Check.due("ticks behind " + all, w.x.settle(1), all < 500 ? 1 : 0);
+      Check.due("the time", w.x.count(0) - time, all < 500 ? 1 : 0);
+      Check.due("frames that are left", w.x.count(2), Math.max(0, all - 500));
+      if (all == 500) Check.due("the next call lets a tick pass", w.x.settle(1), 1);
+    }
+  }
+
+  /** Delivers all frames by hand; returns how many these were. */
+  private static int deliveries(Watch w) {
+    int many = 0;
+    while (w.x.count(2) > 0) {
+      w.x.deliver(0);
+      many++;
+    }
+    return many;
+  }
+
+  /** A wire with frames that make many others, and with so many that make none. */
+  private static Watch many(int extra) {
+    Watch w = new Watch();
+    for (int k = 0; k < 3; k++) w.x.addHost(600, 40);
+    for (int k = 0; k < 6; k++) {
+      w.x.connect(1 + k % 3, 0, 80);
+      w.x.settle(1);
+    }
+    w.type("a").x.lookUp(1);
+    for (int k = 0; k < extra; k++) {
+      // An answer, to which there is none, is doubled.
+      if (k == 0) w.x.deliver(0);
+      else w.x.twice(0);
+    }
+    String requests = "GET / HTTP/1.1\r\nHost:\r\n\r\n".repeat(15);
+    for (int k = 0; k < 12; k++) w.write(k / 2 * 2, requests);
+    int first = w.x.count(2) - 6;
+    for (int k = 0; k < 24; k++) w.x.twice(first + k);
+    // Questions, each of which has an answer.
+    if (extra > 0) w.type("b").x.lookUp(1);
+    for (int k = 0; k < 34; k++) w.x.askAgain(extra > 0 ? 1 : 0);
+    return w;
   }
 
   /** "0 to 10 deliver(), 11 lose(), 12 twice(), 13 spoil() by draws of 1000, of 1000 and of 255 (and 1), 14 and 15 a tick". */
