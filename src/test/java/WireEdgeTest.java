@@ -25,6 +25,7 @@ final class WireEdgeTest {
     placesOfPieces();
     lastPieceIsFull();
     wholeBesideFour();
+    firstPieceThatCameFirst();
     keptBySender();
     keptUntil();
     keptOfDifferentAges();
@@ -485,6 +486,27 @@ final class WireEdgeTest {
     w.x.settle(1);
     Check.due("all are answered", w.x.count(14), 6);
     Check.due("none is left", w.x.hostAt(0, 3), 0);
+  }
+
+  /** "of 4 the one whose first piece came first goes for a fifth": whatever its place, and when others of it came. */
+  private static void firstPieceThatCameFirst() {
+    Watch w = known(1);
+    w.x.setMtu(1, 100);
+    for (int k = 0; k < 5; k++) w.x.echo(1, 0, 200);
+    // Of the second its last piece comes first, then one of each of the others, then one more of the second.
+    w.x.deliver(5);
+    w.x.deliver(0);
+    w.x.deliver(4);
+    w.x.deliver(6);
+    w.x.deliver(2);
+    Check.due("four", w.x.hostAt(0, 3), 4);
+    Check.dueText("what is left", w.hex(0, 18, 20) + ", " + w.hex(2, 18, 20) + ", " + w.hex(3, 18, 20) + ", "
+        + w.hex(5, 18, 20) + ", " + w.hex(7, 18, 20), "00 01, 00 02, 00 03, 00 04, 00 05");
+    w.x.deliver(7);
+    Check.due("still four", w.x.hostAt(0, 3), 4);
+    w.x.settle(1);
+    for (int k = 1; k < 6; k++) Check.isTrue("all but the second are answered " + k, w.x.isAnswered(k) == (k != 2));
+    Check.due("a piece of it is left", w.x.hostAt(0, 3), 1);
   }
 
   /** "Pieces are kept by sender, identification and protocol". */
