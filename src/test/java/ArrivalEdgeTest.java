@@ -9,6 +9,7 @@ final class ArrivalEdgeTest {
     resetWhileAsking();
     synIsAll();
     resetIsAll();
+    resetBesideRcv();
     resetWhileWaiting();
     doublesWithoutBytes();
     doublesWithoutFin();
@@ -121,6 +122,38 @@ final class ArrivalEdgeTest {
     is(w, 1, 5, nxt);
     frames("no answer", w, 0);
     Check.due("none by RST", w.x.count(13), 0);
+  }
+
+  /** "with the sequence rcv": one more, as the server has sent a byte beyond the window, does nothing; FIN waits on. */
+  private static void resetBesideRcv() {
+    Watch w = ConnectionTest.full(0);
+    // Three requests are served, 300 bytes wait to be read by the server, and one byte at the client.
+    w.write(0, GET.repeat(13) + GET.substring(0, 21));
+    deliverAll(w);
+    is(w, 1, 12, 300);
+    is(w, 0, 12, 300);
+    is(w, 0, 11, 1);
+    is(w, 0, 4, w.x.connectionAt(0, 5));
+    Check.due("it waits for the byte", w.x.close(0, false), Lanternserver.FIN_WAIT_1);
+    frames("FIN waits", w, 0);
+    for (int k = 0; k < 450 && w.x.connectionAt(1, 0) != Lanternserver.CLOSED; k++) {
+      loseAll(w);
+      w.x.pass(1);
+    }
+    is(w, 1, 15, Lanternserver.ABORTED);
+    Check.dueText("a question ahead of the RST", w.wire(), "0>* asks 1");
+    w.x.deliver(0);
+    while (w.x.count(2) > 1) w.x.lose(0);
+    w.x.deliver(0);
+    while (w.x.count(2) > 1) w.x.lose(0);
+    Check.isTrue("RST of what comes behind the byte", w.frame(0).startsWith("0>1 RA " + (w.x.connectionAt(0, 6) + 1)));
+    w.x.deliver(0);
+    is(w, 0, 0, Lanternserver.FIN_WAIT_1);
+    is(w, 0, 15, 0);
+    frames("nothing is sent", w, 0);
+    w.x.read(0, 1);
+    frames("FIN, as something is read", w, 1);
+    Check.isTrue("FIN", w.frame(0).startsWith("1>0 FA "));
   }
 
   /** Likewise in TIME_WAIT: the server is CLOSED, and answers what the client says to a FIN that comes again. */
@@ -633,6 +666,8 @@ final class ArrivalEdgeTest {
         Check.noState("abort in CLOSED", () -> a.x.close(0, true));
         continue;
       }
+      if (isOpen) a.write(0, "GET");
+      loseAll(a);
       int sequence = Watch.iss(0) + a.x.connectionAt(0, 5);
       int acknowledgement = state == 1 ? 0 : Watch.iss(1) + a.x.connectionAt(0, 6);
       int window = 300 - a.x.connectionAt(0, 12);
@@ -640,6 +675,7 @@ final class ArrivalEdgeTest {
       is(a, 0, 15, Lanternserver.ABORTED);
       frames("RST alone", a, 1);
       int[] b = a.bytes(0);
+      Check.due("without a byte, whatever was written", b.length, 54);
       Check.due("its sequence", Watch.four(b, 38), sequence);
       Check.due("its acknowledgement", Watch.four(b, 42), acknowledgement);
       Check.due("its flags", Watch.two(b, 46), 0x5014);

@@ -416,6 +416,16 @@ final class RequestEdgeTest {
     Check.noIndex("no file", () -> t.w.x.fileByteAt(0, true, 0));
     t.ask("PUT /abc" + H + "Content-Length: 0\r\n\r\n");
     Check.dueText("nothing of those before", t.w.file(0), "/abc= v6");
+    // Names that begin alike stand by their lengths, also where longer ones stood.
+    RequestTest u = new RequestTest();
+    String[] names = {"/zzz", "/yyy", "/xxx"};
+    for (String name : names) u.ask("PUT " + name + H + "Content-Length: 0\r\n\r\n");
+    for (String name : names) u.ask("DELETE " + name + H + "\r\n");
+    for (String name : new String[] {"/a", "/ab", "/abc"}) u.ask("PUT " + name + H + "Content-Length: 0\r\n\r\n");
+    Check.isTrue("in their order", u.ask("GET /" + H + "\r\n").endsWith("\r\n\r\n/a\n/ab\n/abc\n"));
+    for (String name : new String[] {"/a", "/ab"}) u.ask("DELETE " + name + H + "\r\n");
+    for (String name : new String[] {"/ab", "/a"}) u.ask("PUT " + name + H + "Content-Length: 0\r\n\r\n");
+    Check.isTrue("in their order again", u.ask("GET /" + H + "\r\n").endsWith("\r\n\r\n/a\n/ab\n/abc\n"));
   }
 
   /** servedAt(): "1 for its number on this": each connection counts its own. */

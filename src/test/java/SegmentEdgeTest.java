@@ -6,6 +6,7 @@ final class SegmentEdgeTest {
 
   public static void main(String[] args) {
     firstNumbers();
+    synWithoutBytes();
     numbersGoRound();
     sixHundred();
     threeHundred();
@@ -59,6 +60,24 @@ final class SegmentEdgeTest {
       is(w, n, 3, 40000 + n);
     }
     Check.dueText("the lowest port", w.hex(0, 36, 38), "00 01");
+    Check.dueText("the datagram, with the protocol 6", w.hex(0, 14, 24), "45 00 00 2c 00 01 00 00 40 06");
+  }
+
+  /** "SYN (sequence iss) is sent", and "is sent again": without the bytes that were written ahead of it. */
+  private static void synWithoutBytes() {
+    Watch w = ConnectionTest.known(600, 300);
+    w.x.connect(1, 0, 80);
+    w.write(0, "GET");
+    w.x.pass(10);
+    Check.dueText("the same once more", w.hex(1, 34, 99), w.hex(0, 34, 99));
+    Check.due("its length", w.x.frameAt(1, 0), 58);
+    Check.due("no byte was sent again", w.x.count(12), 0);
+    w.x.lose(0);
+    w.x.deliver(0);
+    w.x.pass(10);
+    Check.dueText("SYN and ACK likewise", w.hex(1, 34, 99), w.hex(0, 34, 99));
+    w.x.settle(1);
+    Check.dueText("the bytes go then", w.read(1, 0), "GET");
   }
 
   /** "Sequence numbers are of 32 bits, and go round": those of the first connection do behind 200 bytes. */
